@@ -281,7 +281,8 @@ public final class KnowledgeRoom {
         return Long.bitCount((set & -set) - 1);
     }
 
-    // A token is a NODE's first sign, with the agents that belong to it as bits from 8 on.
+    // A token is a NODE's first sign, with the agents that belong to it as bits from 8 on: so two
+    // NODES are of one kind just if their tokens are equal.
 
     private static int signOf(int token) {
         return token & 127;
@@ -296,7 +297,7 @@ public final class KnowledgeRoom {
     }
 
     private static boolean hasAgent(int token, int agent) {
-        return (agentsOf(token) >> agent & 1) != 0;
+        return (token >> (8 + agent) & 1) != 0;
     }
 
     private static boolean isLeaf(int sign) {
@@ -350,7 +351,9 @@ public final class KnowledgeRoom {
             if (at < 0 || at > size || size >= tokens.length) {
                 return false;
             }
-            System.arraycopy(tokens, at, tokens, at + 1, size - at);
+            for (int i = size; i > at; i--) {
+                tokens[i] = tokens[i - 1];
+            }
             tokens[at] = token;
             size++;
             return true;
@@ -668,7 +671,7 @@ public final class KnowledgeRoom {
         }
     }
 
-    /** Worlds as bits: those in which each ATOM holds, and for each agent the cell of each world. */
+    /** Worlds as bits: where each ATOM holds, and for each agent the cell of each world. */
     private static final class Worlds {
         int size;
         final long[] atoms = new long[ATOMS];
@@ -748,7 +751,7 @@ public final class KnowledgeRoom {
             System.arraycopy(other.cells, 0, cells, 0, cells.length);
         }
 
-        /** Becomes one world for each of those told of the old ones, tied as the rows of those say. */
+        /** Becomes one world for each one named of the old, tied as the rows of those say. */
         void take(Worlds old, long[] rows, int[] from, int many) {
             size = Math.min(many, MOST_WORLDS);
             for (int which = 0; which < ATOMS; which++) {
@@ -922,7 +925,7 @@ public final class KnowledgeRoom {
     private static final class Events {
         private static final int ROWS = ATOMS + 1;
         int size;
-        // Of each event: what must hold for it, then for each ATOM what tells it (empty: as before).
+        // Of each event: what must hold for it, then what tells each ATOM (empty: as before).
         private final Formula[] rows = new Formula[MOST_EVENTS * ROWS];
         private final int[] cells = new int[AGENTS * MOST_EVENTS];
         private final long[] where = new long[MOST_EVENTS];
@@ -1029,10 +1032,11 @@ public final class KnowledgeRoom {
 
     /** Which worlds are alike, as far as formulas tell in which K stands so and so deep. */
     private static final class Likeness {
-        // The first world that each one is alike with, and, as bits, those of an agent's cell of it.
+        // The first world that each one is alike with, and as bits those of each agent's cell.
         private final int[] first = new int[MOST_WORLDS];
         final long[] seen = new long[AGENTS * MOST_WORLDS];
         private final int[] finer = new int[MOST_WORLDS];
+        private final int[] atoms = new int[MOST_WORLDS];
 
         int difference(Worlds worlds, int u, int v) {
             start(worlds);
@@ -1066,9 +1070,10 @@ public final class KnowledgeRoom {
 
         private void start(Worlds worlds) {
             for (int w = 0; w < worlds.size; w++) {
+                atoms[w] = worlds.atomsOf(w);
                 first[w] = w;
                 for (int v = 0; v < w; v++) {
-                    if (worlds.atomsOf(v) == worlds.atomsOf(w)) {
+                    if (atoms[v] == atoms[w]) {
                         first[w] = v;
                         break;
                     }
@@ -1306,7 +1311,10 @@ public final class KnowledgeRoom {
         }
     }
 
-    /** Whether a formula can hold. A TYPE is a number whose bits tell of the BASE; a set of types, bits. */
+    /**
+     * Whether a formula can hold. A TYPE is a number whose bits tell of the BASE, and a set of types
+     * is a row of bits, one for each number: so all types are gone through 64 at a time.
+     */
     private static final class Decider {
         private static final int WORD = 6;
         private static final int MOST_WORDS = 1 << (Terms.MOST_BASE - WORD);
