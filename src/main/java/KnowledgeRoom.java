@@ -442,7 +442,6 @@ public final class KnowledgeRoom {
         int read(Formula into) {
             draft.size = 0;
             level = -1;
-            behind = 0;
             enter((char) 0);
             toSign(0);
             boolean whole = takeAll();

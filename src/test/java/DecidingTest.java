@@ -66,14 +66,19 @@ public final class DecidingTest {
             }
         }
         // Each ~ ahead of the last atom is one more f > ~, of 40 NODES here.
-        exactly(39, 9, 50 * 40 - 1);
-        exactly(40, 8, 50 * 40);
-        exactly(41, 7, GREAT);
+        exactly("", 39, 9, 50 * 40 - 1);
+        exactly("", 40, 8, 50 * 40);
+        exactly("", 41, 7, GREAT);
+        exactly("~", 39, 9, 50 * 40);
+        exactly("~", 40, 8, GREAT);
+        exactly("K1", 40, 8, GREAT);
+        exactly("a&", 39, 9, GREAT);
+        exactly("{a}", 39, 9, GREAT);
     }
 
-    private static void exactly(int joins, int nots, int due) {
+    private static void exactly(String before, int joins, int nots, int due) {
         String f = "~(" + Check.repeat("a|", 18) + "a)";
-        String text = "[" + f + "](" + Check.repeat("b&", joins) + Check.repeat("~", nots) + "b)";
+        String text = before + "[" + f + "](" + Check.repeat("b&", joins) + Check.repeat("~", nots) + "b)";
         KnowledgeRoom room = new KnowledgeRoom();
         int nodes = Check.put(room, text);
         Check.due("reduce " + text, due, room.reduce());
@@ -173,6 +178,31 @@ public final class DecidingTest {
         }
     }
 
+    private static void samePlain(KnowledgeRoom room, String text) {
+        PlainRoom plain = new PlainRoom();
+        for (char c : text.toCharArray()) {
+            plain.type(c);
+        }
+        plain.formula();
+        int[] due = plain.decisions(13);
+        for (int what = 0; what < 6; what++) {
+            Check.due("decide(" + what + ") of " + text, due[what], room.decide(what));
+        }
+    }
+
+    /** C that fails only far off: in types from which many goings lead to a doubt. */
+    private static void farOff() {
+        String[] texts = {"E12E12a&~C12a", "E12E12E12a&~C12a", "E34E34a&~C34a", "K1K2K1K2K1a&~C12a",
+            "K2K1K2K1K2a&~C12a", "K1K2K3K4a&~C1234a", "K4K3K2K1a&~C1234a", "C12~a&P1P2P1P2a",
+            "C12(a>E12a)&a&~C12a", "~C12a&~C13a&K1a&K2a", "C12a&~C123a", "C1C2a&~C12a", "C12C23a=C123a"};
+        for (String text : texts) {
+            KnowledgeRoom room = new KnowledgeRoom();
+            Check.due(text + " is a formula", 1, Check.put(room, text) > 0 ? 1 : 0);
+            samePlain(room, text);
+        }
+        decides("E12E12a&~C12a", 1, 0, 8, 15, 9, 1);
+    }
+
     /** Formulas with many in the BASE, as the plain room decides them. */
     private static void asPlain() {
         String[] ops = {"~&|>=KPEC", "&KKPEC~", "KCKC&~|", "&|>K", "&|>KKKPP~"};
@@ -185,15 +215,7 @@ public final class DecidingTest {
             }
             int size = room.decide(2);
             if (size >= 0 && left[size]-- > 0) {
-                PlainRoom plain = new PlainRoom();
-                for (char c : text.toCharArray()) {
-                    plain.type(c);
-                }
-                plain.formula();
-                int[] due = plain.decisions(13);
-                for (int what = 0; what < 6; what++) {
-                    Check.due("decide(" + what + ") of " + text, due[what], room.decide(what));
-                }
+                samePlain(room, text);
             }
         }
         for (int size = 6; size < left.length; size++) {
@@ -232,6 +254,7 @@ public final class DecidingTest {
         limit();
         decide();
         anew();
+        farOff();
         asPlain();
         count();
         Check.end();

@@ -77,8 +77,11 @@ public final class HappeningTest {
         Check.put(great, GREAT_ONE);
         Check.due("it is great", 1515, great.reduce());
         Check.due("event of it", BAD, great.event());
-        Check.put(great, "~" + Check.repeat("a&", 74) + "a");
+        Check.put(great, "~" + Check.repeat("a|", 74) + "a");
         Check.due("event of 150 NODES", 0, great.event());
+        Check.due("change by 150 NODES", 0, great.change(0, 7));
+        Check.due("it happens", 1, great.happen());
+        Check.due("by what held before", 128, great.told(0, 0));
         Check.put(great, GREAT_ONE);
         great.reduce();
         Check.due("change by it", BAD, great.change(0, 0));
