@@ -1,59 +1,50 @@
 /** What the project's tests share: it tells every answer that is not the one that is due. */
 final class Check {
+    private static final int MOST_TOLD = 50;
     private static int wrong = 0;
     private static int all = 0;
+    private static String sentence = "";
+    private static int allBefore = 0;
 
     private Check() {
     }
 
-    static void due(String what, long want, long got) {
-        all++;
-        if (want != got) {
+    /**
+     * What is looked at from here on is what this sentence of the document says: of a promise, or of
+     * the terms (0). SentencesTest looks that the words are the document's own.
+     */
+    static void sentence(int promise, String words) {
+        closeSentence();
+        sentence = (promise == 0 ? "terms" : "promise " + promise) + ", \"" + words + "\": ";
+        allBefore = all;
+    }
+
+    private static void closeSentence() {
+        if (!sentence.isEmpty() && all == allBefore) {
             wrong++;
-            if (wrong <= 50) {
-                System.out.println(what + " answered " + got + ", due is " + want);
-            }
+            System.out.println(sentence + "nothing was looked at");
         }
+    }
+
+    static void due(String what, long want, long got) {
+        due(what, Long.toString(want), Long.toString(got));
     }
 
     static void due(String what, String want, String got) {
         all++;
         if (!want.equals(got)) {
             wrong++;
-            if (wrong <= 50) {
-                System.out.println(what + " answered " + got + ", due is " + want);
+            if (wrong <= MOST_TOLD) {
+                System.out.println(sentence + what + " answered " + got + ", due is " + want);
             }
         }
     }
 
     static void end() {
+        closeSentence();
         System.out.println(all + " answers, " + wrong + " of them wrong");
         if (wrong != 0 || all == 0) {
             System.exit(1);
         }
-    }
-
-    /** Has a text collected and made the formula at hand: what formula() answers. */
-    static int put(KnowledgeRoom room, String text) {
-        for (int i = 0; i < text.length(); i++) {
-            room.type(text.charAt(i));
-        }
-        return room.formula();
-    }
-
-    /** The formula at hand, as tell() and letter() tell it. */
-    static String told(KnowledgeRoom room) {
-        int size = room.tell();
-        StringBuilder text = new StringBuilder();
-        for (int i = 0; i < size; i++) {
-            text.append((char) room.letter(i));
-        }
-        due("letter behind the end", KnowledgeRoom.NONE, room.letter(size));
-        due("letter before the start", KnowledgeRoom.NONE, room.letter(-1));
-        return text.toString();
-    }
-
-    static String repeat(String part, int times) {
-        return part.repeat(times);
     }
 }

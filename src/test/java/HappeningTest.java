@@ -1,286 +1,319 @@
-/** Promises 14 to 20: say, event, tieEvents, change, noEvents, happen, back. */
+/** Saying and happening; promises 14 to 20, sentence by sentence. */
 public final class HappeningTest {
-    private static final int BAD = KnowledgeRoom.BAD;
-    private static final int GREAT = KnowledgeRoom.GREAT;
-
-    // It has 1,515 NODES when it is reduced.
-    private static final String GREAT_ONE = "[a&b]K1[b|c]K2[c&a]K3[K1a]K2[P1b]K1a";
+    // What the ends of a row know, and none within it does: said again and again, it takes two worlds each time.
+    private static final String ENDS_GO = "~(K1a|K1~a)&~(K2a|K2~a)";
 
     private HappeningTest() {
     }
 
-    private static KnowledgeRoom roomOf(int... atoms) {
-        KnowledgeRoom room = new KnowledgeRoom();
+    private static Run worlds(int... atoms) {
+        Run run = new Run();
         for (int one : atoms) {
-            room.world(one);
+            run.does("world(" + one + ")");
         }
-        return room;
+        return run;
     }
 
-    private static void worldsAre(String when, KnowledgeRoom room, int what, int... due) {
-        Check.due(when + ": worlds", due.length, room.count(0));
-        for (int w = 0; w < due.length; w++) {
-            Check.due(when + ": told(" + w + ", " + what + ")", due[w], room.told(w, what));
+    private static Run manyWorlds(int many) {
+        Run run = new Run();
+        for (int w = 0; w < many; w++) {
+            run.does("world(" + w + ")");
         }
+        return run;
+    }
+
+    /** Worlds in a row, a in every other one; 1 and 2 in turn can't tell neighbours. ENDS_GO is at hand. */
+    private static Run row(int many) {
+        Run run = new Run();
+        for (int w = 0; w < many; w++) {
+            run.does("world(" + w % 2 + ")");
+            if (w > 0) {
+                run.does("tie(" + (1 + w % 2) + ", " + (w - 1) + ", " + w + ")");
+            }
+        }
+        return run.put(ENDS_GO);
+    }
+
+    /** A text that is reduced to so many nodes, 150 or a few more or fewer. */
+    private static String reducedTo(int nodes) {
+        return "~".repeat(nodes - 147) + "[a](" + "b|".repeat(36) + "b)";
+    }
+
+    private static void terms() {
+        Check.sentence(0, "SAYING a formula: the worlds in which it does not hold (all being there) go;"
+            + " the others are numbered anew in their order.");
+        worlds(0, 1, 2, 3, 1).does("tie(1, 0, 2); tie(1, 2, 3); tie(1, 3, 1); tie(2, 4, 1)").put("a").does("say() 3")
+            .all(0, 1, 3, 1).all(1, 0, 0, 2).all(2, 0, 1, 0).all(3, 0, 1, 2).does("tie(1, 0, 0) 2");
+        // Whether it holds is asked before any world goes.
+        worlds(1, 3, 1).does("tie(1, 0, 1); tie(1, 1, 2)").put("P1b&~K1b&(b|a&~P2b)").does("say() 3")
+            .put("~b").does("say() 2").put("P1b").does("worlds() 0");
+        manyWorlds(64).put("f").does("say() 32; told(0, 0) 32; told(31, 0) 63; told(32, 0) BAD").put("a&b&c&d&e")
+            .does("say() 1; told(0, 0) 63; told(0, 4) 0");
+
+        Check.sentence(0, "HAPPENING: EVENTS are numbered from 0 on, at most 8, each with a formula that must hold for"
+            + " it, and perhaps, for each ATOM, a formula that tells whether it holds behind it; for each agent they"
+            + " fall into cells, too.");
+        Run run = worlds(0);
+        for (int e = 0; e < 8; e++) {
+            run.does("change(" + e + ", 0) BAD; event() " + e + "; change(" + e + ", " + e + ") 0");
+        }
+        run.does("event() BAD; count(1) 8; tieEvents(2, 7, 0) 2; happen() 8").all(0, 1, 2, 4, 8, 16, 32, 64, 128)
+            .all(1, 0, 1, 2, 3, 4, 5, 6, 7).all(2, 0, 1, 2, 3, 4, 5, 6, 0);
+        run = worlds(85).put("~a").does("event()");
+        for (int which = 0; which < 8; which++) {
+            run.put("~" + (char) ('a' + which)).does("change(0, " + which + ") 0");
+        }
+        run.does("happen() 0; atom(0, 0, false) 1; happen() 1").all(0, 171);
+
+        Check.sentence(0, "The worlds become all pairs of a world and an event whose formula holds in it, numbered by"
+            + " the world, then by the event;");
+        run = worlds(1, 2, 3).put("a").does("event()").put("b").does("event()").put("1").does("event()");
+        for (int e = 0; e < 3; e++) {
+            run.does("change(" + e + ", " + (5 + e) + ")");
+        }
+        run.does("happen() 7").all(0, 1 + 32, 1 + 128, 2 + 64, 2 + 128, 3 + 32, 3 + 64, 3 + 128);
+
+        Check.sentence(0, "ATOMS are as the event tells in the world, else as there;");
+        worlds(0, 1, 2, 3).does("tie(1, 0, 2)").does("event(); event()").put("b").does("change(0, 0)").put("a")
+            .does("change(0, 1)").put("K1~b").does("change(1, 7)").does("happen() 8")
+            .all(0, 0, 0, 2, 129, 1, 2, 3, 3);
+
+        Check.sentence(0, "two are in one cell, if their worlds and their events are.");
+        worlds(0, 0, 0).does("tie(1, 0, 2); tie(2, 0, 1); event(); event(); tieEvents(1, 0, 1); tieEvents(3, 0, 1)")
+            .does("happen() 6").all(1, 0, 0, 2, 2, 0, 0).all(2, 0, 1, 0, 1, 4, 5).all(3, 0, 0, 2, 2, 4, 4)
+            .all(4, 0, 1, 2, 3, 4, 5);
+        // Each of the pairs has all of its cell, the first and the last one too.
+        worlds(1, 2).does("tie(1, 0, 1); event(); event(); tieEvents(2, 0, 1); tieEvents(1, 1, 0)").put("0").does("change(0, 0)")
+            .does("happen() 4").all(0, 0, 1, 2, 2).all(1, 0, 0, 0, 0).all(2, 0, 0, 2, 2)
+            .where("P1a", "1111").where("P2a", "1100").where("K2b", "0011").where("P3a", "0100").where("K1b", "0000")
+            .does("tie(1, 0, 0) 4; tie(2, 0, 0) 2; tie(2, 3, 3) 2; tie(3, 0, 0) 1");
+        worlds(1, 2).does("tie(1, 0, 1); event(); event(); tieEvents(2, 0, 1); happen() 4").all(0, 1, 1, 2, 2)
+            .all(1, 0, 1, 0, 1).all(2, 0, 0, 2, 2).where("K1a", "0000").where("K2a", "1100").does("tie(1, 0, 0) 2; tie(1, 3, 3) 2");
     }
 
     private static void say() {
-        KnowledgeRoom room = roomOf(0, 1, 2, 3, 1);
-        room.tie(1, 0, 2);
-        room.tie(1, 2, 3);
-        room.tie(1, 3, 1);
-        room.tie(2, 4, 1);
-        Check.put(room, "a");
-        Check.due("say a", 3, room.say());
-        worldsAre("behind a", room, 0, 1, 3, 1);
-        worldsAre("1 behind a", room, 1, 0, 0, 2);
-        worldsAre("2 behind a", room, 2, 0, 1, 0);
-        Check.due("say a again", 3, room.say());
-        Check.due("no world went, so there is one step", 1, room.count(4));
-        Check.put(room, "K1b");
-        Check.due("say what holds nowhere", 0, room.say());
-        worldsAre("behind K1b", room, 0, 1, 3, 1);
-        Check.due("that is no step", 1, room.count(4));
-        Check.put(room, "P1b&~K1b");
-        Check.due("what was not known before, and is not now", 2, room.say());
-        worldsAre("behind it", room, 0, 1, 3);
-        Check.due("the formula stays", 6, room.count(2));
-        Check.due("back", 3, room.back());
-        Check.due("back", 5, room.back());
-        worldsAre("back again", room, 1, 0, 0, 0, 0, 4);
-        Check.due("no more", BAD, room.back());
-        KnowledgeRoom full = new KnowledgeRoom();
-        for (int w = 0; w < 64; w++) {
-            full.world(w & 1);
-            full.tie(4, 0, w);
-        }
-        Check.put(full, "1");
-        Check.due("say 1", 64, full.say());
-        Check.put(full, "~a");
-        Check.due("say ~a", 32, full.say());
-        Check.due("all are in one cell", 0, full.told(31, 4));
+        Check.sentence(14, "The formula at hand is SAID: how many worlds are left.");
+        row(28).does("say() 26; say() 24; count(2) 15; count(0) 24; count(4) 2; say() 22; worlds() 20");
+        worlds(1, 3).does("say() 2; count(4) 0").put("a").does("say() 2; count(4) 0").put("b").does("say() 1; say() 1; count(4) 1");
+
+        Check.sentence(14, "0: it holds nowhere, and nothing changes.");
+        worlds(1, 2).does("tie(4, 0, 1)").put("0").changesNothing("say() 0").put("a&b").changesNothing("say() 0")
+            .does("count(4) 0; back() BAD").put("a").does("say() 1").put("~a").changesNothing("say() 0; say() 0")
+            .does("count(4) 1; back() 2");
+        new Run("say() 0; count(4) 0; world(0); say() 1");
+        row(2).does("say() 0; count(0) 2; told(1, 2) 0; back() BAD");
     }
 
     private static void event() {
-        KnowledgeRoom room = roomOf(0, 1);
-        Check.put(room, "a");
+        Check.sentence(15, "One more EVENT, for which the formula at hand must hold, alone in all its cells, and by"
+            + " which no ATOM changes: which one.");
+        worlds(0, 1).does("tie(1, 0, 1)").put("a").does("event() 0").put("~a").does("event() 1").put("K1a")
+            .does("event() 2").put("0").does("count(1) 3; happen() 2").all(0, 0, 1).all(1, 0, 1);
+        // Nothing of an event that was there before is left.
+        worlds(6).does("event(); event(); tieEvents(1, 0, 1) 2; change(0, 0); change(1, 7); noEvents() 2;"
+            + "event() 0; event() 1; tieEvents(1, 0, 0) 1; tieEvents(1, 1, 1) 1; happen() 2").all(0, 6, 6).all(1, 0, 1);
+
+        Check.sentence(15, "BAD: there are 8; that has more than 150 NODES.");
+        Run run = worlds(0);
         for (int e = 0; e < 8; e++) {
-            Check.due("event " + e, e, room.event());
+            run.does("event() " + e);
         }
-        Check.due("event 8", BAD, room.event());
-        Check.due("events", 8, room.count(1));
-        Check.put(room, "~a");
-        Check.due("each has its own formula", 8, room.happen());
-        worldsAre("each is alone", room, 3, 0, 1, 2, 3, 4, 5, 6, 7);
-        worldsAre("none changes", room, 0, 1, 1, 1, 1, 1, 1, 1, 1);
-        KnowledgeRoom great = roomOf(0);
-        Check.put(great, GREAT_ONE);
-        Check.due("it is great", 1515, great.reduce());
-        Check.due("event of it", BAD, great.event());
-        Check.put(great, "~" + Check.repeat("a|", 74) + "a");
-        Check.due("event of 150 NODES", 0, great.event());
-        Check.due("change by 150 NODES", 0, great.change(0, 7));
-        Check.due("it happens", 1, great.happen());
-        Check.due("by what held before", 128, great.told(0, 0));
-        Check.put(great, GREAT_ONE);
-        great.reduce();
-        Check.due("change by it", BAD, great.change(0, 0));
+        run.put("0").does("event() BAD; event() BAD; count(1) 8; happen() 8; noEvents() 8; event() 0; happen() 0");
+        new Run().put("~" + "a|".repeat(74) + "a", 150).does("event() 0");
+        new Run().put(reducedTo(150)).does("reduce() 150; event() 0; count(1) 1");
+        new Run().put(reducedTo(151)).does("reduce() 151; event() BAD; count(1) 0").put("1").does("event() 0");
+        new Run().put(reducedTo(151)).does("event() 0; reduce() 151; event() BAD; count(1) 1");
+        worlds(1, 3).put(reducedTo(149)).does("reduce() 149; event() 0; happen() 1").all(0, 3);
     }
 
     private static void tieEvents() {
-        KnowledgeRoom room = roomOf(0);
-        for (int e = 0; e < 8; e++) {
-            room.event();
+        Check.sentence(16, "An agent can't tell two events apart: how many its cell has.");
+        Run run = worlds(0).does("event(); event(); event(); event(); event(); event(); event(); event()");
+        run.does("tieEvents(1, 0, 7) 2; tieEvents(1, 7, 0) 2; tieEvents(1, 3, 4) 2; tieEvents(1, 4, 7) 4;"
+            + "tieEvents(1, 1, 1) 1; tieEvents(1, 3, 3) 4; tieEvents(1, 0, 0) 4; tieEvents(1, 7, 7) 4; tieEvents(4, 5, 6) 2; happen() 8")
+            .all(1, 0, 1, 2, 0, 0, 5, 6, 0).all(2, 0, 1, 2, 3, 4, 5, 6, 7).all(4, 0, 1, 2, 3, 4, 5, 5, 7);
+        run = new Run("event(); event(); event(); event(); event(); event(); event(); event()");
+        for (int e = 1; e < 8; e++) {
+            run.does("tieEvents(3, " + e + ", " + (e - 1) + ") " + (e + 1));
         }
-        Check.due("tieEvents 1 0 7", 2, room.tieEvents(1, 0, 7));
-        Check.due("tieEvents 1 7 0", 2, room.tieEvents(1, 7, 0));
-        Check.due("tieEvents 1 3 4", 2, room.tieEvents(1, 3, 4));
-        Check.due("tieEvents 1 4 7", 4, room.tieEvents(1, 4, 7));
-        Check.due("tieEvents 1 1 1", 1, room.tieEvents(1, 1, 1));
-        Check.due("tieEvents 4 5 6", 2, room.tieEvents(4, 5, 6));
-        Check.due("tieEvents 0", BAD, room.tieEvents(0, 0, 1));
-        Check.due("tieEvents 5", BAD, room.tieEvents(5, 0, 1));
-        Check.due("tieEvents 1 8 0", BAD, room.tieEvents(1, 8, 0));
-        Check.due("tieEvents 1 0 8", BAD, room.tieEvents(1, 0, 8));
-        Check.due("tieEvents 1 -1 0", BAD, room.tieEvents(1, -1, 0));
-        Check.due("happen", 8, room.happen());
-        worldsAre("1", room, 1, 0, 1, 2, 0, 0, 5, 6, 0);
-        worldsAre("4", room, 4, 0, 1, 2, 3, 4, 5, 5, 7);
-        room.noEvents();
-        room.event();
-        Check.due("none such any more", BAD, room.tieEvents(1, 0, 1));
-        room.event();
-        Check.due("new ones are alone", 1, room.tieEvents(1, 0, 0));
+
+        Check.sentence(16, "BAD: none such.");
+        worlds(0).does("event(); event(); tieEvents(0, 0, 1) BAD; tieEvents(5, 0, 1) BAD; tieEvents(-1, 0, 1) BAD;"
+            + "tieEvents(MIN, 0, 1) BAD; tieEvents(MAX, 0, 1) BAD; tieEvents(1, -1, 0) BAD; tieEvents(1, 0, -1) BAD;"
+            + "tieEvents(1, 2, 0) BAD; tieEvents(1, 0, 2) BAD; tieEvents(1, 8, 1) BAD; tieEvents(4, 0, 8) BAD;"
+            + "tieEvents(1, MIN, 0) BAD; tieEvents(1, 0, MAX) BAD; happen() 2")
+            .all(1, 0, 1).all(2, 0, 1).all(3, 0, 1).all(4, 0, 1)
+            .does("tieEvents(4, 0, 1) 2; noEvents() 2; tieEvents(4, 0, 1) BAD; tieEvents(1, 0, 0) BAD");
+        // Worlds are no events.
+        worlds(0, 0).does("event(); tieEvents(1, 0, 1) BAD; tieEvents(1, 0, 0) 1");
     }
 
     private static void change() {
-        KnowledgeRoom room = roomOf(0, 1, 2, 3);
-        room.event();
-        room.event();
-        Check.put(room, "b");
-        Check.due("change 0 0", 0, room.change(0, 0));
-        Check.put(room, "a");
-        Check.due("change 0 1", 0, room.change(0, 1));
-        Check.put(room, "~a&~b");
-        Check.due("change 1 7", 0, room.change(1, 7));
-        Check.put(room, "0");
-        Check.due("change 2 0", BAD, room.change(2, 0));
-        Check.due("change -1 0", BAD, room.change(-1, 0));
-        Check.due("change 0 8", BAD, room.change(0, 8));
-        Check.due("change 0 -1", BAD, room.change(0, -1));
-        Check.due("happen", 8, room.happen());
-        worldsAre("a and b are exchanged at once", room, 0, 0, 128, 2, 1, 1, 2, 3, 3);
-        Check.due("back", 4, room.back());
-        Check.put(room, "1");
-        Check.due("change 0 0 again", 0, room.change(0, 0));
-        Check.due("happen", 8, room.happen());
-        worldsAre("a always now", room, 0, 1, 128, 3, 1, 1, 2, 3, 3);
-        room.back();
-        room.noEvents();
-        room.event();
-        Check.due("happen", 4, room.happen());
-        worldsAre("a new event changes nothing", room, 0, 0, 1, 2, 3);
+        Check.sentence(17, "Behind an event an ATOM holds, if the formula at hand holds before it: 0.");
+        worlds(0, 1).does("tie(1, 0, 1); event()").put("P1a").does("change(0, 7) 0").put("~a").does("change(0, 0) 0")
+            .put("a").does("happen() 2").all(0, 129, 128).does("happen() 2").all(0, 128, 129);
+        // The last one told counts.
+        worlds(0).does("event(); change(0, 0) 0").put("0").does("change(0, 0) 0; happen() 1").all(0, 0)
+            .put("1").does("change(0, 0) 0; happen() 1").all(0, 1);
+
+        Check.sentence(17, "BAD: none such; that has more than 150 NODES.");
+        worlds(0).does("change(0, 0) BAD; event(); change(1, 0) BAD; change(-1, 0) BAD; change(8, 0) BAD; change(MIN, 0) BAD;"
+            + "change(MAX, 0) BAD; change(0, 8) BAD; change(0, -1) BAD; change(0, MIN) BAD; change(0, MAX) BAD;"
+            + "happen() 1").all(0, 0).does("change(0, 7) 0; change(0, 0) 0; happen() 1").all(0, 129)
+            .does("noEvents() 1; change(0, 0) BAD");
+        worlds(0).does("event()").put(reducedTo(150)).does("reduce() 150; change(0, 3) 0; happen() 1").all(0, 0)
+            .put(reducedTo(149)).does("reduce() 149; change(0, 3) 0; happen() 1").all(0, 8);
+        worlds(0).does("event()").put(reducedTo(151)).does("reduce() 151; change(0, 3) BAD; happen() 1").all(0, 0);
+        worlds(1).does("event()").put("~" + "a&".repeat(74) + "a", 150).does("change(0, 2) 0; happen() 1").all(0, 1);
     }
 
     private static void noEvents() {
-        KnowledgeRoom room = roomOf(0);
-        Check.due("none", 0, room.noEvents());
-        room.event();
-        room.event();
-        Check.due("two", 2, room.noEvents());
-        Check.due("none any more", 0, room.count(1));
-        Check.due("none again", 0, room.noEvents());
-        Check.due("nothing happens", 0, room.happen());
-        Check.due("the world is there", 1, room.count(0));
+        Check.sentence(18, "There are no events any more: how many there were.");
+        worlds(0).does("noEvents() 0; event(); event(); noEvents() 2; count(1) 0; noEvents() 0; happen() 0; count(0) 1;"
+            + "event() 0; noEvents() 1; back() BAD");
+        Run run = new Run();
+        for (int e = 0; e < 8; e++) {
+            run.does("event()");
+        }
+        run.does("event() BAD; noEvents() 8; count(1) 0; event() 0; count(1) 1");
+        // The steps that were made stay.
+        worlds(0).does("event(); event(); happen() 2; noEvents() 2; count(4) 1; back() 1");
     }
 
     private static void happen() {
-        KnowledgeRoom room = roomOf(1, 0, 1);
-        room.tie(1, 0, 1);
-        room.tie(1, 1, 2);
-        room.tie(2, 0, 2);
-        Check.put(room, "a");
-        room.event();
-        Check.put(room, "~a|K2a");
-        room.event();
-        room.tieEvents(2, 0, 1);
-        Check.due("happen", 5, room.happen());
-        worldsAre("by world, then by event", room, 0, 1, 1, 0, 1, 1);
-        worldsAre("1 tells the events apart", room, 1, 0, 1, 1, 0, 1);
-        worldsAre("2 does not", room, 2, 0, 0, 2, 0, 0);
-        worldsAre("3 tells all apart", room, 3, 0, 1, 2, 3, 4);
-        Check.due("the events stay", 2, room.count(1));
-        Check.due("one step", 1, room.count(4));
-        room.noEvents();
-        Check.put(room, "a&~a");
-        room.event();
-        Check.due("none would be", 0, room.happen());
-        Check.due("nothing changes", 5, room.count(0));
-        Check.due("one step still", 1, room.count(4));
-        Check.due("back", 3, room.back());
-        room.noEvents();
-        Check.put(room, "1");
-        room.event();
-        Check.due("nothing is otherwise", 3, room.happen());
-        Check.due("a step all the same", 1, room.count(4));
-        KnowledgeRoom full = new KnowledgeRoom();
-        for (int w = 0; w < 32; w++) {
-            full.world(w);
+        Check.sentence(19, "It HAPPENS: how many worlds there are then (the events stay).");
+        worlds(0).does("event(); event(); happen() 2; count(1) 2; happen() 4; happen() 8; happen() 16; happen() 32;"
+            + "happen() 64; count(0) 64; count(1) 2; count(4) 6; back() 32; back() 16; happen() 32; count(4) 5");
+        worlds(1, 0, 1).does("tie(1, 0, 1); tie(1, 1, 2); tie(2, 0, 2)").put("a").does("event()").put("~a|K2a")
+            .does("event(); tieEvents(2, 0, 1) 2; happen() 5").all(0, 1, 1, 0, 1, 1).all(1, 0, 1, 1, 0, 1)
+            .all(2, 0, 0, 2, 0, 0).all(3, 0, 1, 2, 3, 4).does("count(1) 2");
+        // As many pairs as can be: each of 57 worlds, and 7 of them once more.
+        manyWorlds(57).does("event()").put("a&b&c").does("event(); happen() 64; count(0) 64; told(63, 0) 56; told(62, 0) 55;"
+            + "told(61, 0) 55; told(8, 0) 7; told(7, 0) 7; count(4) 1; back() 57");
+        Run run = manyWorlds(8).put("1");
+        for (int e = 0; e < 8; e++) {
+            run.does("event()");
         }
-        full.event();
-        full.event();
-        Check.due("64", 64, full.happen());
-        Check.due("more than 64", GREAT, full.happen());
-        Check.due("64 still", 64, full.count(0));
-        Check.due("one step", 1, full.count(4));
-        full.back();
-        full.world(1);
-        Check.due("66", GREAT, full.happen());
-    }
+        run.does("change(7, 7) 0; happen() 64; told(63, 0) 135; told(62, 0) 7; told(7, 0) 128; told(8, 0) 1");
 
-    private static void back() {
-        KnowledgeRoom room = roomOf(0);
-        Check.due("nothing to undo", BAD, room.back());
-        room.event();
-        for (int i = 1; i <= 12; i++) {
-            room.happen();
-            Check.due("steps", i, room.count(4));
+        Check.sentence(19, "0: none would be; GREAT: more than 64: nothing changes in both.");
+        new Run("event()").changesNothing("happen() 0");
+        worlds(0, 1).changesNothing("happen() 0").put("c").does("event(); event()").changesNothing("happen() 0; happen() 0")
+            .does("back() BAD; noEvents()").put("a").does("event(); happen() 1; noEvents()").put("~a").does("event()")
+            .changesNothing("happen() 0").does("count(4) 1; back() 2");
+        manyWorlds(64).does("event(); happen() 64").put("a&b&c&d&e&f").does("event(); happen() GREAT; count(0) 64;"
+            + "told(63, 0) 63; told(1, 0) 1; count(1) 2; count(4) 1; worlds() 1; back() 64; back() BAD");
+        worlds(0, 0, 0, 0, 0, 0, 0, 0, 0, 0, 0, 0, 0).does("event(); event(); event(); event(); event()")
+            .changesNothing("happen() GREAT");
+        manyWorlds(58).does("event()").put("a&b&c").does("event(); happen() GREAT; count(0) 58; told(57, 0) 57; count(4) 0");
+        Run great = manyWorlds(64);
+        for (int e = 0; e < 8; e++) {
+            great.does("event()");
         }
-        room.event();
-        room.happen();
-        Check.due("at most 12 are kept", 12, room.count(4));
-        Check.due("two worlds", 2, room.count(0));
-        for (int i = 11; i >= 0; i--) {
-            Check.due("back", 1, room.back());
-            Check.due("steps", i, room.count(4));
+        great.does("happen() GREAT; count(0) 64; told(63, 0) 63; count(1) 8; count(4) 0");
+        manyWorlds(33).does("event(); event(); happen() GREAT; count(0) 33").put("a|b|c|d|e|f").does("say() 32; happen() 64");
+    }
+
+    private static void undone() {
+        Check.sentence(20, "The last say() or contract() by which a world went, or happen(), is undone");
+        worlds(0, 0, 1, 1).does("tie(1, 0, 2); tie(1, 1, 3); tie(4, 2, 3); contract() 2").put("a").does("say() 1")
+            .does("event(); happen() 1; count(4) 3; back() 1; count(4) 2; back() 2").all(0, 0, 1).all(1, 0, 0)
+            .does("worlds() 1; back() 4; worlds() 2; count(4) 0; count(1) 1").all(0, 0, 0, 1, 1).all(1, 0, 1, 0, 1)
+            .all(4, 0, 1, 2, 2);
+        // Where no world went, there is nothing to be undone; what happens counts also if all stays as it was.
+        worlds(0, 1).does("say() 2; contract() 2; count(4) 0; back() BAD; event(); happen() 2; say() 2; contract() 2;"
+            + "count(4) 1; back() 2; back() BAD");
+        worlds(0, 1).put("0").does("say() 0; event(); happen() 0; back() BAD");
+        // The formula, the signs and the text stay.
+        worlds(0, 1).put("a").does("say() 1; tell() 1").put("b|c").does("type(97); back() 2; count(2) 3; count(3) 1; letter(0) 'a'");
+    }
+
+    private static void kept() {
+        Check.sentence(20, "(at most 12 are kept;");
+        Run run = row(26);
+        for (int step = 1; step <= 12; step++) {
+            run.does("say() " + (26 - 2 * step) + "; count(4) " + step);
         }
-        Check.due("the first one is forgotten", BAD, room.back());
-        forgets();
-        goesBackTo();
+        for (int step = 11; step >= 0; step--) {
+            run.does("back() " + (26 - 2 * step) + "; count(4) " + step);
+        }
+        run.does("back() BAD; count(0) 26");
+        run = row(40);
+        for (int step = 1; step <= 18; step++) {
+            run.does("say() " + (40 - 2 * step) + "; count(4) " + Math.min(step, 12));
+        }
+        for (int step = 1; step <= 12; step++) {
+            run.does("back() " + (4 + 2 * step) + "; count(4) " + (12 - step));
+        }
+        run.does("back() BAD; back() BAD; count(0) 28").all(0, 0, 1, 0, 1, 0, 1, 0, 1, 0, 1, 0, 1, 0, 1, 0, 1, 0, 1,
+            0, 1, 0, 1, 0, 1, 0, 1, 0, 1);
+        // Going to and fro, one at a time and many at once, over the end of the twelve.
+        run = row(60);
+        int size = 60;
+        int steps = 0;
+        for (int round = 0; round < 9; round++) {
+            for (int i = 0; i < 5 + round; i++) {
+                size -= 2;
+                steps = Math.min(steps + 1, 12);
+                run.does("say() " + size + "; count(4) " + steps);
+            }
+            for (int i = 0; i < 4 + round; i++) {
+                size += 2;
+                steps--;
+                run.does("back() " + size + "; count(4) " + steps);
+            }
+        }
+        // Twelve of all three kinds, the oldest of 13 being one of each kind in turn.
+        run = worlds(0, 0, 1, 3);
+        run.does("contract() 3; event()").put("a").does("say() 2");
+        for (int i = 0; i < 11; i++) {
+            run.does("happen() 2");
+        }
+        run.does("count(4) 12");
+        for (int i = 0; i < 11; i++) {
+            run.does("back() 2");
+        }
+        run.does("back() 3; back() BAD; count(4) 0");
     }
 
-    private static KnowledgeRoom stepped() {
-        KnowledgeRoom room = roomOf(0, 1, 3);
-        Check.put(room, "a");
-        room.say();
-        Check.due("a step", 1, room.count(4));
-        return room;
+    /** A room with a step that can be undone. */
+    private static Run stepped() {
+        return worlds(0, 1, 3).put("a").does("say() 2; count(4) 1");
     }
 
-    private static void forgets() {
-        KnowledgeRoom room = stepped();
-        room.world(256);
-        room.tie(1, 0, 2);
-        room.tie(0, 0, 0);
-        room.alone(1, 2);
-        room.atom(0, 8, true);
-        Check.due("refused ones forget nothing", 1, room.count(4));
-        room.told(0, 0);
-        room.noEvents();
-        room.event();
-        room.contract();
-        Check.due("others do not either", 1, room.count(4));
-        room.world(0);
-        Check.due("world forgets", BAD, room.back());
-        room = stepped();
-        room.tie(1, 0, 0);
-        Check.due("tie forgets, though nothing is otherwise", BAD, room.back());
-        room = stepped();
-        room.alone(1, 0);
-        Check.due("alone forgets, though nothing is otherwise", BAD, room.back());
-        room = stepped();
-        room.atom(0, 0, true);
-        Check.due("atom forgets, though nothing is otherwise", BAD, room.back());
-        Check.due("no steps", 0, room.count(4));
-    }
+    private static void forgotten() {
+        Check.sentence(20, "world(), tie(), alone(), atom() that are not refused forget them, also when nothing is"
+            + " otherwise by it): how many worlds there are.");
+        stepped().does("world(256) BAD; tie(1, 0, 2) BAD; tie(0, 0, 0) BAD; tie(1, -1, 0) BAD; alone(1, 2) BAD; alone(5, 0) BAD;"
+            + "atom(0, 8, true) BAD; atom(2, 0, true) BAD; count(4) 1; back() 3");
+        stepped().does("told(0, 0); holds(0); worlds(); type(97); four(97); formula(); tell(); letter(0); event(); change(0, 0);"
+            + "tieEvents(1, 0, 0); noEvents(); differ(0, 1); reduce(); decide(0); contract() 2; say() 2; happen() 0;"
+            + "count(4) 1; back() 3");
+        for (String call : new String[] {"world(0)", "tie(1, 0, 1)", "tie(1, 0, 0)", "tie(4, 1, 1)", "alone(1, 0)",
+                "alone(4, 1)", "atom(0, 0, true)", "atom(0, 0, false)", "atom(1, 7, false)"}) {
+            stepped().does(call + "; count(4) 0; back() BAD");
+        }
+        Run full = manyWorlds(64).does("event(); happen() 64; world(0) BAD; count(4) 1; back() 64; happen() 64; atom(63, 7, false) 0");
+        full.does("count(4) 0; back() BAD");
+        // Steps behind it are kept again.
+        row(28).does("say() 26; say() 24; alone(3, 0) 0; say() 22; say() 20; count(4) 2; back() 22; back() 24; back() BAD");
 
-    private static void goesBackTo() {
-        KnowledgeRoom room = roomOf(0, 0, 1, 1);
-        room.tie(1, 0, 2);
-        room.tie(1, 1, 3);
-        Check.due("contract", 2, room.contract());
-        Check.put(room, "a");
-        Check.due("say", 1, room.say());
-        room.event();
-        Check.due("happen", 1, room.happen());
-        Check.due("steps", 3, room.count(4));
-        Check.due("back of happen", 1, room.back());
-        Check.due("back of say", 2, room.back());
-        Check.due("where a holds now", 1, room.worlds());
-        Check.due("back of contract", 4, room.back());
-        Check.due("where a holds now", 2, room.worlds());
-        worldsAre("1", room, 1, 0, 1, 0, 1);
-        Check.due("the event stays", 1, room.count(1));
+        Check.sentence(20, "BAD: none such.");
+        new Run("back() BAD; world(0); back() BAD; count(4) 0; count(0) 1");
+        stepped().does("back() 3").changesNothing("back() BAD; back() BAD").does("say() 2; back() 3; back() BAD");
     }
 
     public static void main(String[] args) {
+        terms();
         say();
         event();
         tieEvents();
         change();
         noEvents();
         happen();
-        back();
+        undone();
+        kept();
+        forgotten();
         Check.end();
     }
 }
