@@ -197,15 +197,19 @@ public final class DecidingTest {
         new Run("decide(0) 1; decide(1) 1; decide(2) 0; decide(3) 1; decide(4) 1; decide(5) 1");
         large();
 
-        Check.sentence(24, "BAD: D, [ ] or { } is in it, another number; GREAT: the BASE is.");
+        Check.sentence(24, "BAD: D, [ ] or { } is in it,");
         for (String text : new String[] {"D1a", "[a]b", "{a}b", "K1D2b", "K1[a]b", "~{1}1", "a|b&C12D3(a>b)"}) {
             bad(text);
         }
         bad("D1a&" + ATOMS + "&K1a&K2a&K3a&K4a&K1b&K2b");
         bad("[1]0&" + "K1".repeat(13) + "a");
+
+        Check.sentence(24, "another number;");
         for (String text : new String[] {"a", "D1a", "K1".repeat(13) + "a"}) {
             new Run("world(1)").put(text).changesNothing("decide(6) BAD; decide(-1) BAD; decide(7) BAD; decide(MIN) BAD; decide(MAX) BAD");
         }
+
+        Check.sentence(24, "GREAT: the BASE is.");
         new Run("world(1)").put("K1".repeat(13) + "a").changesNothing("decide(0) GREAT; decide(1) GREAT; decide(2) GREAT;"
             + "decide(3) GREAT; decide(4) GREAT; decide(5) GREAT; decide(6) BAD").put("K1".repeat(12) + "a").does("decide(2) 13");
         great("C1234a&C123b&C12c");

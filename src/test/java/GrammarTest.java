@@ -246,10 +246,12 @@ public final class GrammarTest {
         }
         run.does("count(3) 95; formula() -11; type(97) 1; type(32) 2; count(3) 2; formula() 1");
 
-        Check.sentence(7, "BAD: not 32 .. 126, there are 200.");
+        Check.sentence(7, "BAD: not 32 .. 126,");
         new Run("type(97) 1").changesNothing("type(31) BAD; type(127) BAD; type(0) BAD; type(-1) BAD; type(128) BAD;"
             + "type(255) BAD; type(256) BAD; type(65633) BAD; type(353) BAD; type(-159) BAD; type(MIN) BAD; type(MAX) BAD")
             .does("type(32) 2; type(126) 3");
+
+        Check.sentence(7, "there are 200.");
         run = new Run();
         for (int i = 1; i <= 200; i++) {
             run.does("type(" + (i % 2 == 0 ? 32 : 126) + ") " + i);
@@ -281,7 +283,7 @@ public final class GrammarTest {
         run.does("type(32) 12; formula() 9").tells("a>(b>(c|(d&e)))");
         fourCall(run, "~ ~ ", "4");
 
-        Check.sentence(8, "BAD, changing nothing: a sign that is none, no room for all of them.");
+        Check.sentence(8, "BAD, changing nothing: a sign that is none,");
         run = new Run("type(97) 1");
         for (char none : new char[] {1, 10, 31, 127, 128, 225, 255}) {
             fourCall(run, none + "bcd", "BAD");
@@ -293,6 +295,8 @@ public final class GrammarTest {
         run.does("four(-1) BAD; four(MIN) BAD; count(3) 1");
         fourCall(run, "\0 \0~", "3");
         run.does("formula() -12");
+
+        Check.sentence(8, "no room for all of them.");
         for (int left = 0; left <= 4; left++) {
             run = new Run().collect(" ".repeat(199 - left)).collect("a");
             for (int many = 0; many <= 4; many++) {
@@ -328,7 +332,7 @@ public final class GrammarTest {
         new Run().put("(" + "a|".repeat(74) + "a", -10 - 150).put("(~" + "a|".repeat(74) + "a", -10 - 151)
             .put("~" + "a|".repeat(74), -10 - 149).put("a|".repeat(75), -10 - 150);
 
-        Check.sentence(9, "one NODE too many, one too deep: its first sign;");
+        Check.sentence(9, "one NODE too many,");
         String full = "~" + "a|".repeat(74) + "a";
         fault("a&".repeat(75) + "a", 150);
         fault("a>".repeat(75) + "K1a", 150);
@@ -342,6 +346,8 @@ public final class GrammarTest {
         fault(full + "b", 150);
         fault(full + " )", 151);
         fault("~" + "a|".repeat(73) + "a& ~b", 151);
+
+        Check.sentence(9, "one too deep: its first sign;");
         fault("~".repeat(31) + "a", 31);
         fault("~".repeat(31) + " (a)", 32);
         fault("~".repeat(31) + ")", 31);

@@ -113,12 +113,14 @@ public final class HappeningTest {
         worlds(6).does("event(); event(); tieEvents(1, 0, 1) 2; change(0, 0); change(1, 7); noEvents() 2;"
             + "event() 0; event() 1; tieEvents(1, 0, 0) 1; tieEvents(1, 1, 1) 1; happen() 2").all(0, 6, 6).all(1, 0, 1);
 
-        Check.sentence(15, "BAD: there are 8; that has more than 150 NODES.");
+        Check.sentence(15, "BAD: there are 8;");
         Run run = worlds(0);
         for (int e = 0; e < 8; e++) {
             run.does("event() " + e);
         }
         run.put("0").does("event() BAD; event() BAD; count(1) 8; happen() 8; noEvents() 8; event() 0; happen() 0");
+
+        Check.sentence(15, "that has more than 150 NODES.");
         new Run().put("~" + "a|".repeat(74) + "a", 150).does("event() 0");
         new Run().put(reducedTo(150)).does("reduce() 150; event() 0; count(1) 1");
         new Run().put(reducedTo(151)).does("reduce() 151; event() BAD; count(1) 0").put("1").does("event() 0");
@@ -156,11 +158,13 @@ public final class HappeningTest {
         worlds(0).does("event(); change(0, 0) 0").put("0").does("change(0, 0) 0; happen() 1").all(0, 0)
             .put("1").does("change(0, 0) 0; happen() 1").all(0, 1);
 
-        Check.sentence(17, "BAD: none such; that has more than 150 NODES.");
+        Check.sentence(17, "BAD: none such;");
         worlds(0).does("change(0, 0) BAD; event(); change(1, 0) BAD; change(-1, 0) BAD; change(8, 0) BAD; change(MIN, 0) BAD;"
             + "change(MAX, 0) BAD; change(0, 8) BAD; change(0, -1) BAD; change(0, MIN) BAD; change(0, MAX) BAD;"
             + "happen() 1").all(0, 0).does("change(0, 7) 0; change(0, 0) 0; happen() 1").all(0, 129)
             .does("noEvents() 1; change(0, 0) BAD");
+
+        Check.sentence(17, "that has more than 150 NODES.");
         worlds(0).does("event()").put(reducedTo(150)).does("reduce() 150; change(0, 3) 0; happen() 1").all(0, 0)
             .put(reducedTo(149)).does("reduce() 149; change(0, 3) 0; happen() 1").all(0, 8);
         worlds(0).does("event()").put(reducedTo(151)).does("reduce() 151; change(0, 3) BAD; happen() 1").all(0, 0);
@@ -196,15 +200,15 @@ public final class HappeningTest {
         }
         run.does("change(7, 7) 0; happen() 64; told(63, 0) 135; told(62, 0) 7; told(7, 0) 128; told(8, 0) 1");
 
-        Check.sentence(19, "0: none would be; GREAT: more than 64: nothing changes in both.");
+        Check.sentence(19, "0: none would be;");
         new Run("event()").changesNothing("happen() 0");
         worlds(0, 1).changesNothing("happen() 0").put("c").does("event(); event()").changesNothing("happen() 0; happen() 0")
             .does("back() BAD; noEvents()").put("a").does("event(); happen() 1; noEvents()").put("~a").does("event()")
             .changesNothing("happen() 0").does("count(4) 1; back() 2");
+
+        Check.sentence(19, "GREAT: more than 64:");
         manyWorlds(64).does("event(); happen() 64").put("a&b&c&d&e&f").does("event(); happen() GREAT; count(0) 64;"
             + "told(63, 0) 63; told(1, 0) 1; count(1) 2; count(4) 1; worlds() 1; back() 64; back() BAD");
-        worlds(0, 0, 0, 0, 0, 0, 0, 0, 0, 0, 0, 0, 0).does("event(); event(); event(); event(); event()")
-            .changesNothing("happen() GREAT");
         manyWorlds(58).does("event()").put("a&b&c").does("event(); happen() GREAT; count(0) 58; told(57, 0) 57; count(4) 0");
         Run great = manyWorlds(64);
         for (int e = 0; e < 8; e++) {
@@ -212,6 +216,19 @@ public final class HappeningTest {
         }
         great.does("happen() GREAT; count(0) 64; told(63, 0) 63; count(1) 8; count(4) 0");
         manyWorlds(33).does("event(); event(); happen() GREAT; count(0) 33").put("a|b|c|d|e|f").does("say() 32; happen() 64");
+    }
+
+    private static void happenInVain() {
+        Check.sentence(19, "nothing changes in both.");
+        // Both with a step that can be undone, ties, an event that changes an ATOM, signs and a text at hand.
+        steppedAndTied().put("0").does("event() 0; change(0, 0) 0").put("b").does("type(97); tell() 1")
+            .changesNothing("happen() 0; happen() 0").does("letter(0) 'b'; back() 14");
+        Run great = steppedAndTied();
+        for (int e = 0; e < 5; e++) {
+            great.does("event() " + e + "; tieEvents(2, 0, " + e + ") " + (e + 1));
+        }
+        great.does("change(4, 7) 0").put("b").does("type(97); tell() 1").changesNothing("happen() GREAT; happen() GREAT")
+            .does("letter(0) 'b'; tieEvents(2, 0, 4) 5; back() 14");
     }
 
     private static void undone() {
@@ -276,27 +293,47 @@ public final class HappeningTest {
         run.does("back() 3; back() BAD; count(4) 0");
     }
 
+    /** Thirteen worlds left of fourteen by a step that can be undone, tied crosswise; 1 is at hand. */
+    private static Run steppedAndTied() {
+        Run run = manyWorlds(14);
+        for (int w = 1; w < 14; w++) {
+            run.does("tie(" + (1 + w % 4) + ", " + w + ", " + w / 3 + ")");
+        }
+        return run.put("a|b|c|d").does("say() 13; count(4) 1").put("1");
+    }
+
     /** A room with a step that can be undone. */
     private static Run stepped() {
         return worlds(0, 1, 3).put("a").does("say() 2; count(4) 1");
     }
 
     private static void forgotten() {
-        Check.sentence(20, "world(), tie(), alone(), atom() that are not refused forget them, also when nothing is"
-            + " otherwise by it): how many worlds there are.");
+        Check.sentence(20, "world(), tie(), alone(), atom() that are not refused forget them,");
         stepped().does("world(256) BAD; tie(1, 0, 2) BAD; tie(0, 0, 0) BAD; tie(1, -1, 0) BAD; alone(1, 2) BAD; alone(5, 0) BAD;"
             + "atom(0, 8, true) BAD; atom(2, 0, true) BAD; count(4) 1; back() 3");
         stepped().does("told(0, 0); holds(0); worlds(); type(97); four(97); formula(); tell(); letter(0); event(); change(0, 0);"
             + "tieEvents(1, 0, 0); noEvents(); differ(0, 1); reduce(); decide(0); contract() 2; say() 2; happen() 0;"
             + "count(4) 1; back() 3");
-        for (String call : new String[] {"world(0)", "tie(1, 0, 1)", "tie(1, 0, 0)", "tie(4, 1, 1)", "alone(1, 0)",
-                "alone(4, 1)", "atom(0, 0, true)", "atom(0, 0, false)", "atom(1, 7, false)"}) {
+        for (String call : new String[] {"world(0)", "world(255)", "tie(1, 0, 1)", "tie(4, 1, 0)", "atom(0, 0, false)",
+                "atom(1, 7, true)"}) {
             stepped().does(call + "; count(4) 0; back() BAD");
         }
-        Run full = manyWorlds(64).does("event(); happen() 64; world(0) BAD; count(4) 1; back() 64; happen() 64; atom(63, 7, false) 0");
-        full.does("count(4) 0; back() BAD");
+        worlds(0, 1, 3).does("tie(2, 1, 2)").put("a").does("say() 2; count(4) 1; alone(2, 0) 1; count(4) 0; back() BAD");
+        manyWorlds(64).does("event(); happen() 64; world(0) BAD; count(4) 1; back() 64; happen() 64; atom(63, 7, true) 0")
+            .does("count(4) 0; back() BAD");
         // Steps behind it are kept again.
         row(28).does("say() 26; say() 24; alone(3, 0) 0; say() 22; say() 20; count(4) 2; back() 22; back() 24; back() BAD");
+
+        Check.sentence(20, "also when nothing is otherwise by it):");
+        for (String call : new String[] {"tie(1, 0, 0) 1", "tie(4, 1, 1) 1", "alone(1, 0) 0", "alone(4, 1) 0",
+                "atom(0, 0, true) 1", "atom(1, 7, false) 0"}) {
+            stepped().does(call + "; count(4) 0; back() BAD; count(0) 2");
+        }
+        worlds(0, 1, 3).does("tie(2, 1, 2)").put("a").does("say() 2; count(4) 1; tie(2, 1, 0) 2; count(4) 0; back() BAD");
+
+        Check.sentence(20, "how many worlds there are.");
+        stepped().does("event(); event(); happen() 4; back() 2; count(0) 2; back() 3; count(0) 3");
+        manyWorlds(64).put("f").does("say() 32; event(); event(); back() 64; count(0) 64; happen() 64; back() 64; count(0) 64");
 
         Check.sentence(20, "BAD: none such.");
         new Run("back() BAD; world(0); back() BAD; count(4) 0; count(0) 1");
@@ -311,6 +348,7 @@ public final class HappeningTest {
         change();
         noEvents();
         happen();
+        happenInVain();
         undone();
         kept();
         forgotten();

@@ -113,18 +113,7 @@ public final class ReducingTest {
         new Run().put("[a]K1b").does("count(2) 4; reduce() 6; count(2) 6; count(5) 1; decide(0) 1; decide(2) 3");
         new Run().put("{a}P1b").does("decide(0) BAD; reduce() 12; decide(0) 1; decide(1) 0");
 
-        Check.sentence(23, "BAD: E, C or D is in it; GREAT: it has more than 2,000 (changing nothing in both).");
-        for (String text : new String[] {"E1a", "C12a", "D1a", "[a]E1b", "[C1a]b", "{D1a}0", "K1(a&~E4b)", "[a]b&D1234c"}) {
-            new Run("world(1); world(2)").put(text).changesNothing("reduce() BAD; reduce() BAD").tells(text);
-        }
-        new Run().put("E1a&" + great(40, 7)).does("reduce() BAD").put(great(40, 7) + "&C1a").does("reduce() BAD");
-        String great = "[a=b]K1[a&b]K1[b|c]K2[c&a]K3[K1a]K2[P1b]K1~a";
-        new Run("world(1); world(2)").put(great).changesNothing("reduce() GREAT; reduce() GREAT").tells(great);
-        new Run().put("[a]E1b", 4).does("reduce() BAD").put("[a]b").does("reduce() 3");
-        new Run().put(great).does("reduce() GREAT").put("[a]b").does("reduce() 3").tells("a>b");
-        // Nothing of what was too great is left, also if it was so many times.
-        new Run().put("{a=b}".repeat(10) + "P1~c" + "|a".repeat(40), 123).does("reduce() GREAT; reduce() GREAT; reduce() GREAT;"
-            + "reduce() GREAT; reduce() GREAT; reduce() GREAT; reduce() GREAT; reduce() GREAT").put("[a](b&c)").does("reduce() 7").tells("(a>b)&(a>c)");
+        refused();
 
         Check.sentence(23, "(A formula at hand may have more than 150 NODES so.)");
         new Run("world(3); world(1)").put("[a](" + "b|".repeat(37) + "b)").does("reduce() 151; count(2) 151; worlds() 1; holds(0) 1;"
@@ -132,6 +121,38 @@ public final class ReducingTest {
             .put("a").does("count(2) 1");
         new Run("world(0); world(2)").put(great(40, 8)).does("worlds() 1; reduce() 2000; worlds() 1; holds(0) 0; holds(1) 1;"
             + "count(5) 0; decide(0) 1; decide(2) 2; say() 1; back() 2; event() BAD");
+    }
+
+    private static void refused() {
+        String[] unfit = {"E1a", "C12a", "D1a", "[a]E1b", "[C1a]b", "{D1a}0", "K1(a&~E4b)", "[a]b&D1234c"};
+        String great = "[a=b]K1[a&b]K1[b|c]K2[c&a]K3[K1a]K2[P1b]K1~a";
+
+        Check.sentence(23, "BAD: E, C or D is in it;");
+        for (String text : unfit) {
+            new Run().put(text).does("reduce() BAD");
+        }
+        for (String sign : new String[] {"E1", "E1234", "C1", "C1234", "D1", "D1234"}) {
+            new Run().put(sign + "a&" + great(40, 6)).does("reduce() BAD").put(great(40, 6) + "&" + sign + "a").does("reduce() BAD")
+                .put("[" + sign + "1]0").does("reduce() BAD").put("~".repeat(29) + sign + "1").does("reduce() BAD");
+        }
+
+        Check.sentence(23, "GREAT: it has more than 2,000");
+        new Run().put(great).does("reduce() GREAT").put(great(40, 8)).does("reduce() 2000").put("~" + great(40, 8)).does("reduce() GREAT");
+
+        Check.sentence(23, "(changing nothing in both).");
+        for (String text : unfit) {
+            new Run("world(1); world(2)").put(text).changesNothing("reduce() BAD; reduce() BAD").tells(text);
+        }
+        new Run("world(1); world(2)").put(great).changesNothing("reduce() GREAT; reduce() GREAT").tells(great);
+        new Run("world(1); world(2)").put("~" + great(40, 8)).changesNothing("reduce() GREAT; reduce() GREAT");
+        new Run().put("[a]E1b", 4).does("reduce() BAD").put("[a]b").does("reduce() 3");
+        new Run().put(great).does("reduce() GREAT").put("[a]b").does("reduce() 3").tells("a>b");
+        // Nothing of what was too great is left, also if it was so many times.
+        Run often = new Run().put("{a=b}".repeat(10) + "P1~c" + "|a".repeat(40), 123);
+        for (int i = 0; i < 20; i++) {
+            often.does("reduce() GREAT");
+        }
+        often.put("[a](b&(c&(d&(e&(f&g)))))").does("reduce() 23").tells("(a>b)&((a>c)&((a>d)&((a>e)&((a>f)&(a>g)))))");
     }
 
     /** Where [a|b]K1[~K2a]P3b holds in the four worlds, by hand. */

@@ -69,10 +69,6 @@ public final class SentencesTest {
     }
 
     public static void main(String[] args) throws IOException {
-        if (!Files.exists(DOCUMENT)) {
-            System.out.println("the document is not here, its words can't be compared");
-            return;
-        }
         String document = Files.readString(DOCUMENT);
         List<Path> files;
         try (Stream<Path> all = Files.list(TESTS)) {

@@ -103,10 +103,12 @@ public final class WorldsTest {
         worlds(1, 254).does("tie(1, 0, 1) 2; tie(4, 1, 0) 2").put("a").does("say() 1; world(2) 1")
             .all(0, 1, 2).all(1, 0, 1).all(4, 0, 1).does("tie(1, 0, 0) 1; tie(1, 1, 1) 1");
 
-        Check.sentence(2, "BAD: other bits, there are 64.");
+        Check.sentence(2, "BAD: other bits,");
         worlds(3).changesNothing("world(256) BAD; world(511) BAD; world(257) BAD; world(-1) BAD; world(MIN) BAD;"
             + "world(MAX) BAD; world(1073741824) BAD; world(-256) BAD; world(65536) BAD")
             .does("world(255) 1");
+
+        Check.sentence(2, "there are 64.");
         manyWorlds(63).does("world(255) 63; world(255) BAD; world(256) BAD; count(0) 64; told(63, 0) 255");
         manyWorlds(64).put("~a|b|c|d|e|f").does("say() 63; world(0) 63; world(0) BAD");
     }
