@@ -152,7 +152,7 @@ public final class ReducingTest {
         for (int i = 0; i < 20; i++) {
             often.does("reduce() GREAT");
         }
-        often.put("[a](b&(c&(d&(e&(f&g)))))").does("reduce() 23").tells("(a>b)&((a>c)&((a>d)&((a>e)&((a>f)&(a>g)))))");
+        often.put("[a](b&c&d&e&f&g)").does("reduce() 23").tells("(((((a>b)&(a>c))&(a>d))&(a>e))&(a>f))&(a>g)");
     }
 
     /** Where [a|b]K1[~K2a]P3b holds in the four worlds, by hand. */
