@@ -44,6 +44,10 @@ public final class GrammarTest {
         new Run().collect(full).does("count(3) 200; type(97) BAD; formula() 86; count(5) 1");
         new Run().collect(full.substring(0, 199)).does("type(98) 200; type(98) BAD; formula() 86");
         new Run().collect("~".repeat(30)).collect(" ".repeat(170)).does("type(97) BAD; formula() -210");
+        // As many NODES and as many signs as can be at once, each sign standing for itself.
+        String dense = "~" + "(a&b)|c|".repeat(24) + "(a&b)|c";
+        new Run().collect(dense).does("count(3) 200; formula() 150; count(2) 150");
+        fault(dense.substring(0, 199) + ")", 199);
         reads("  K 1  a ", 2, "K1a");
         reads("  E 1 2  a ", 2, "E12a");
         reads("E1 1", 2, "E11");

@@ -61,6 +61,7 @@ public final class HoldingTest {
         four().where("D12(a&b)", "0001").where("D3(a|b)", "0000").where("D13b", "0011").where("D123a", "0101")
             .where("D1a", "0000").where("D120", "0000").where("{a|b}D3(a|b)", "0111").where("D4a", "0101");
         row(1).put("D12a").does("worlds() 1; holds(63) 1");
+        row(1).where("D4a", "0".repeat(63) + "1").where("D2a", "0".repeat(64)).where("D1234~a", "1".repeat(63) + "0");
     }
 
     private static void common() {
